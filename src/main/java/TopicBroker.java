@@ -26,6 +26,9 @@ public final class TopicBroker {
     private static final int MOST_SECONDS = 4000;
     private static final int KEYS = 40;
     private static final long NEVER = 4294967295L;
+    /** Later than any second that there can be. */
+    private static final long FAR_OFF = 1L << 40;
+    private static final int LARGEST = 2147483647;
 
     /** What a byte or a packet leads to, when it is no fault: faults are 129 and more. */
     private static final int FINE = 0;
@@ -284,7 +287,7 @@ public final class TopicBroker {
             case 2:
                 return m.quality;
             default:
-                return m.life == NONE ? NONE : (int) Math.min(Integer.MAX_VALUE, m.left(time));
+                return m.life == NONE ? NONE : (int) Math.min(LARGEST, m.left(time));
         }
     }
 
@@ -956,7 +959,7 @@ public final class TopicBroker {
 
     /** The next second in which something may happen by itself: those before it need no look. */
     private long nextEvent() {
-        long next = Long.MAX_VALUE;
+        long next = FAR_OFF;
         for (int i = 0; i < CONNECTIONS; i++) {
             next = Math.min(next, connections[i].quietUntil() + 1);
         }
@@ -1188,9 +1191,7 @@ public final class TopicBroker {
         }
 
         Row rest() {
-            Row read = new Row(Arrays.copyOfRange(bytes, at, at + left()));
-            at += left();
-            return read;
+            return new Row(Arrays.copyOfRange(bytes, at, at + left()));
         }
 
         void finish() {
@@ -1686,11 +1687,11 @@ public final class TopicBroker {
         }
 
         long willTime() {
-            return connection != null || will == null ? Long.MAX_VALUE : left + delay;
+            return connection != null || will == null ? FAR_OFF : left + delay;
         }
 
         long endTime() {
-            return connection != null || expiry == NEVER ? Long.MAX_VALUE : left + expiry;
+            return connection != null || expiry == NEVER ? FAR_OFF : left + expiry;
         }
     }
 
@@ -1737,8 +1738,10 @@ public final class TopicBroker {
 
         /** A byte comes: MORE are needed, the packet is WHOLE, or a fault. */
         int accept(int b) {
-            packet[come] = b;
-            come++;
+            if (come < PACKET) {
+                packet[come] = b;
+                come++;
+            }
             if (come == 1) {
                 whole = 0;
                 return MORE;
@@ -1793,10 +1796,11 @@ public final class TopicBroker {
 
         /** The topic that is meant, or null if there is none. */
         Row resolve(Row topic, int alias) {
+            boolean told = alias > 0 && alias <= ALIASES;
             if (topic.count() == 0) {
-                return aliases[alias];
+                return told ? aliases[alias] : null;
             }
-            if (alias > 0) {
+            if (told) {
                 aliases[alias] = topic;
             }
             return topic;
@@ -1805,7 +1809,7 @@ public final class TopicBroker {
         /** The last second in which it may be quiet. */
         long quietUntil() {
             if (session == null || session.keep == 0) {
-                return Long.MAX_VALUE - 1;
+                return FAR_OFF;
             }
             return last + session.keep * 3L / 2;
         }

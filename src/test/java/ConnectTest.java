@@ -137,6 +137,10 @@ public final class ConnectTest {
         refused(129, Rig.connect(longId, 2, 0, NONE, 0));
         refused(144, Rig.connect(longId, 4, 0, Rig.properties(21, "m"), 0, "", ""));
         refused(0, Rig.connect(Rig.repeat("i", 20), 2, 0, NONE));
+        refused(129, Rig.connect("x\u0000", 2, 0, NONE));
+        refused(129, Rig.connect("\u00ff", 2, 0, Rig.properties(21, "m")));
+        refused(129, Rig.connect("x", 2, 0, Rig.properties(21, "\u00ff")));
+        refused(140, Rig.connect("x", 2, 0, Rig.properties(21, "m", 22, "\u00ff")));
     }
 
     private static void idsOfClients() {

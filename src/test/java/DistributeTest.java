@@ -15,7 +15,9 @@ public final class DistributeTest {
         sizeOfWhatWaits();
         acknowledged();
         received();
+        refusedMakesRoom();
         completed();
+        widthsOfIdentifiers();
         leastNumbers();
         sharedInTurn();
         sharedPrefersOnline();
@@ -324,6 +326,34 @@ public final class DistributeTest {
         q.feed(1, Rig.answer(80, 2, 255));
         q.session(1, 2, 1);
         q.sends(1);
+    }
+
+    private static void refusedMakesRoom() {
+        Rig r = new Rig();
+        r.enter(0, "pub", 99);
+        r.enter(1, Rig.connect("sub", 0, 0, Rig.properties(33, Rig.two(1))));
+        r.listen(1, "t", 2);
+        for (int n = 1; n <= 3; n++) {
+            r.feed(0, Rig.publish(4, "t", n, "m" + n));
+        }
+        r.feed(1, Rig.answer(80, 1, 151));
+        r.sends(1, Rig.publish(4, "t", 1, "m1"), Rig.publish(4, "t", 1, "m2"));
+        r.feed(1, Rig.answer(80, 1));
+        r.feed(1, Rig.answer(112, 1));
+        r.sends(1, Rig.answer(98, 1), Rig.publish(4, "t", 1, "m3"));
+    }
+
+    private static void widthsOfIdentifiers() {
+        for (int identifier : new int[] {1, 127, 128, 16383, 16384, 2097151, 2097152, 268435455}) {
+            Rig r = new Rig();
+            r.enter(0, "x", 9);
+            int[] told = Rig.properties(11, Rig.variable(identifier));
+            r.feed(0, Rig.packet(130, Rig.two(1), told, "t", 0));
+            r.broker.take(0, 99);
+            Check.same("identifier", identifier, r.broker.subscription(0, 0, 1));
+            r.feed(0, Rig.publish(0, "t", 0, "p"));
+            r.sends(0, Rig.publish(0, "t", 0, told, "p"));
+        }
     }
 
     private static void completed() {

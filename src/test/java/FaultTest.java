@@ -4,7 +4,7 @@ public final class FaultTest {
     private static final String[] GOOD = {"", "\u0001", "\u007f", "\u00c2\u0080", "\u00df\u00bf",
         "\u00e0\u00a0\u0080", "\u00ed\u009f\u00bf", "\u00ee\u0080\u0080", "\u00ef\u00bf\u00bf",
         "\u00f0\u0090\u0080\u0080", "\u00f4\u008f\u00bf\u00bf", "\u00e1\u0080\u0080a", "\u00ec\u00bf\u0080"};
-    private static final String[] BAD = {"\u0000", "a\u0000", "\u0080", "\u00bf", "\u00c0\u0080",
+    private static final String[] BAD = {"\u0000", "a\u0000", "\u0080", "\u0080\u0080", "\u00bf", "\u00c0\u0080",
         "\u00c1\u00bf", "\u00c2", "\u00c2a", "\u00c2\u00c0", "\u00c2\u007f", "\u00e0\u009f\u00bf",
         "\u00e1\u0080", "\u00e1\u0080a", "\u00e1\u007f\u0080", "\u00ed\u00a0\u0080",
         "\u00ed\u00bf\u00bf", "\u00f0\u008f\u00bf\u00bf", "\u00f0\u0090\u0080", "\u00f4\u0090\u0080\u0080",
@@ -24,6 +24,7 @@ public final class FaultTest {
         theFirstFaultCounts();
         faultyPacketsAreTaken();
         aFaultClosesThatOneAlone();
+        propertiesOfOthersAreForgotten();
         Check.end();
     }
 
@@ -70,11 +71,14 @@ public final class FaultTest {
     }
 
     private static void flagsOfPackets() {
-        int[][] fit = {{4, 0}, {5, 0}, {6, 2}, {7, 0}, {8, 2}, {10, 2}, {12, 0}, {14, 0}};
-        for (int[] pair : fit) {
+        int[][] fit = {Rig.answer(64, 1), Rig.answer(80, 1), Rig.answer(98, 1), Rig.answer(112, 1),
+            Rig.subscribe(1, "a", 0), Rig.unsubscribe(1, "a"), {192, 0}, {224, 0}};
+        for (int[] packet : fit) {
             for (int flags = 0; flags < 16; flags++) {
-                if (flags != pair[1]) {
-                    fault(129, new int[] {16 * pair[0] + flags, 0});
+                if (flags != (packet[0] & 15)) {
+                    int[] other = packet.clone();
+                    other[0] = packet[0] & 240 | flags;
+                    fault(129, other);
                 }
             }
         }
@@ -105,6 +109,8 @@ public final class FaultTest {
             fault(129, Rig.publish(0, "t", 0, Rig.properties(38, text, ""), ""));
             fault(129, Rig.publish(0, "t", 0, Rig.properties(38, "", text), ""));
             fault(129, Rig.publish(0, "t", 0, Rig.properties(8, text), ""));
+            fault(129, Rig.publish(0, "t", 0, Rig.properties(3, text), ""));
+            fault(129, Rig.packet(64, Rig.two(1), 0, Rig.properties(31, text)));
             fault(0, Rig.publish(0, "t", 0, Rig.properties(9, text), text));
             fault(129, Rig.subscribe(1, text, 0));
             fault(129, Rig.unsubscribe(1, "a", text));
@@ -243,5 +249,18 @@ public final class FaultTest {
         Check.yes("0 is closed", !r.broker.isOpen(0));
         Check.yes("1 is open", r.broker.isOpen(1));
         r.told(0, 2);
+    }
+
+    private static void propertiesOfOthersAreForgotten() {
+        Rig r = new Rig();
+        r.enter(0, "x", 0);
+        r.enter(1, "y", 9);
+        r.feed(0, 224, 0);
+        r.closedWith(0);
+        r.feed(1, Rig.publish(0, "t", 0, Rig.properties(8, "+"), ""));
+        r.closedWith(1, Rig.farewell(130));
+        r.enter(1, "y", 9);
+        r.feed(1, Rig.publish(0, "t", 0, ""));
+        Check.yes("open", r.broker.isOpen(1));
     }
 }

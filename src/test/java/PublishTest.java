@@ -58,7 +58,7 @@ public final class PublishTest {
         r.closedWith(1, Rig.farewell(130));
         r.broker.lose(0);
         r.enter(0, "pub", 99);
-        r.feed(0, Rig.publish(0, "", 0, Rig.properties(35, Rig.two(1)), "q"));
+        r.feed(0, Rig.publish(0, "", 0, Rig.properties(35, Rig.two(4)), "q"));
         r.closedWith(0, Rig.farewell(130));
         for (int alias : new int[] {0, 5, 65535}) {
             r.enter(0, "pub", 99);
@@ -66,6 +66,7 @@ public final class PublishTest {
             r.closedWith(0, Rig.farewell(148));
         }
         r.enter(0, "pub", 99);
+        r.feed(0, Rig.publish(0, "t", 0, "q"));
         r.feed(0, Rig.publish(0, "", 0, "q"));
         r.closedWith(0, Rig.farewell(130));
         aliasOfWhatIsHeld();

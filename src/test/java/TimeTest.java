@@ -317,13 +317,14 @@ public final class TimeTest {
     private static Rig busy() {
         Rig r = withSeer();
         for (int c = 0; c < 7; c++) {
-            r.enter(c, Rig.connect("c" + c, 4, c % 3 * 5, Rig.expiry(c * 4),
-                    Rig.properties(24, Rig.four(c * 3 % 7), 2, Rig.four(c)), "w/" + c, "p"));
+            r.enter(c, Rig.connect("c" + c, 36, c % 3 * 5, Rig.expiry(c * 4),
+                    Rig.properties(24, Rig.four(c * 3 % 7), 2, Rig.four(c * 20)), "w/" + c, "p"));
             r.listen(c, "w/" + (c + 2) % 7, 1);
             r.feed(c, Rig.publish(1, "r" + c, 0, Rig.properties(2, Rig.four(c * 3)), "p"));
         }
-        r.broker.lose(3);
-        r.broker.lose(5);
+        for (int c = 3; c < 7; c++) {
+            r.broker.lose(c);
+        }
         return r;
     }
 
@@ -340,10 +341,17 @@ public final class TimeTest {
                 text.append(r.broker.session(s, what)).append(',');
             }
         }
+        for (int i = 0; i < r.broker.told(1); i++) {
+            text.append(r.broker.retained(i, 3)).append(';');
+        }
         return text.toString() + r.topics();
     }
 
     private static void manySecondsAreOneByOne() {
+        Rig r = new Rig();
+        r.enter(0, Rig.connect("x", 0, 4, Rig.expiry(3)));
+        r.enter(1, Rig.connect("y", 0, 4, Rig.expiry(4)));
+        Check.same("ended: one is lost in second 7, and ends in 10", 1, r.broker.pass(10));
         for (int seconds = 0; seconds < 40; seconds++) {
             Rig once = busy();
             Rig singly = busy();
