@@ -2,8 +2,25 @@
 final class Check {
     private static int checks;
     private static int failures;
+    /** The document's sentence that is being looked at, and where its checks began. */
+    private static String sentence = "";
+    private static int begun;
 
     private Check() {
+    }
+
+    /** What follows looks at this sentence of the document; one without a check is a failure too. */
+    static void about(String words) {
+        closeSentence();
+        sentence = words;
+        begun = checks;
+    }
+
+    private static void closeSentence() {
+        if (!sentence.isEmpty() && checks == begun) {
+            failures++;
+            System.out.println("nothing was looked at for: " + sentence);
+        }
     }
 
     static void same(String what, long due, long got) {
@@ -14,6 +31,9 @@ final class Check {
         checks++;
         if (!due.equals(got)) {
             failures++;
+            if (!sentence.isEmpty()) {
+                System.out.println("\"" + sentence + "\"");
+            }
             System.out.println(what + ": due " + due + ", but it is " + got);
             StackTraceElement[] trace = new Throwable().getStackTrace();
             for (int i = 1; i < trace.length; i++) {
@@ -38,6 +58,7 @@ final class Check {
     }
 
     static void end() {
+        closeSentence();
         System.out.println(checks + " checks, " + failures + " wrong");
         if (failures > 0) {
             System.exit(1);

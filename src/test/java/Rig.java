@@ -156,6 +156,14 @@ final class Rig {
         broker.take(connection, 5000);
     }
 
+    /** Fills OUT of a client with PINGRESP up to some bytes, eight of them with a call. */
+    void fill(int connection, int bytes) {
+        int pings = (bytes - broker.size(connection)) / 2;
+        for (int left = pings; left > 0; left -= 8) {
+            broker.feed(connection, 0x00C000C000C000C0L, 0x00C000C000C000C0L, 2 * Math.min(left, 8));
+        }
+    }
+
     // ---- what is seen
 
     /** OUT has just these bytes; they are taken. */
