@@ -15,6 +15,7 @@ public final class BrokerEdgesTest {
         nothingBehindWhatDoesNotFit();
         lostBehindThePacket();
         lostBehindLose();
+        lostBehindABadVariable();
         lostBehindASecond();
         theLeastNumberFirst();
         againAsLongAsThereAreSuch();
@@ -170,6 +171,22 @@ public final class BrokerEdgesTest {
         r.enter(0, Rig.connect("first", 4, 0, Rig.expiry(9), 0, "w/first", ""));
         r.fill(1, 2000);
         r.broker.lose(0);
+        r.sends(2, Rig.publish(0, "w/first", 0, ""), Rig.publish(0, "w/full", 0, ""));
+        Check.yes("closed", !r.broker.isOpen(1));
+    }
+
+    private static void lostBehindABadVariable() {
+        Check.about("the connection is LOST behind what is being done");
+        // A first VARIABLE that is wrong is no packet that is taken, but it brings a will as well.
+        Rig r = new Rig();
+        r.enter(1, Rig.connect("full", 4, 0, Rig.expiry(9), 0, "w/full", ""));
+        r.listen(1, "w/first", 0);
+        r.enter(2, "seer", 9);
+        r.listen(2, "w/+", 0);
+        r.enter(0, Rig.connect("first", 4, 0, Rig.expiry(9), 0, "w/first", ""));
+        r.fill(1, 2000);
+        Check.same("taken", 0, r.feed(0, 192, 145, 3));
+        r.closedWith(0, Rig.farewell(149));
         r.sends(2, Rig.publish(0, "w/first", 0, ""), Rig.publish(0, "w/full", 0, ""));
         Check.yes("closed", !r.broker.isOpen(1));
     }

@@ -144,12 +144,14 @@ public final class BytesEdgesTest {
 
     /** Property 3 is a STRING without any further rule: a PUBLISH with it is fine, or 129. */
     private static void string(int... bytes) {
+        // A broker is used for 512 calls at most, and a text needs some twelve of them.
+        if (uses % 40 == 0) {
+            shared = new Rig();
+        }
+        uses++;
         if (!shared.broker.isOpen(0)) {
-            // A broker is used for some 500 calls at most.
-            shared = uses % 50 == 0 ? new Rig() : shared;
-            uses++;
             shared.broker.open(0);
-            shared.feed(0, Rig.connect("x", 2, 0, NONE));
+            shared.broker.feed(0, 0x5454514D04000D10L, 0x0000000000000205L, 15);
             shared.broker.take(0, 99);
         }
         shared.feed(0, Rig.publish(0, "t", 0, Rig.properties(3, Rig.two(bytes.length), bytes), ""));

@@ -251,16 +251,19 @@ public final class ConnectEdgesTest {
     private static void idsOfTwoAndThreeFigures() {
         Check.about("and so on, in figures");
         Rig r = new Rig();
-        for (int n = 1; n <= 125; n++) {
+        for (int n = 1; n <= 120; n++) {
             r.broker.open(0);
             // Fifteen bytes are fed with one call, so that the broker is not used too often.
             r.broker.feed(0, 0x5454514D04000D10L, 0x0000000000000205L, 15);
-            if (n == 9 || n == 10 || n >= 99 && n <= 101 || n == 119 || n == 125) {
-                r.sends(0, Rig.connack("auto" + n));
+            if (n == 9 || n == 10 || n >= 99 && n <= 101 || n == 120) {
+                Check.same("id", "auto" + n, r.idOf(0));
             }
             r.broker.lose(0);
         }
-        r.told(7, 125);
+        r.told(7, 120);
+        Check.same("CONNACK tells it", '1', r.broker.out(0, 23));
+        Check.same("CONNACK tells it", '2', r.broker.out(0, 24));
+        Check.same("CONNACK tells it", '0', r.broker.out(0, 25));
     }
 
     private static void theNumberGoesOn() {
@@ -277,6 +280,13 @@ public final class ConnectEdgesTest {
         r.feed(4, Rig.connect("", 0, 0, NONE));
         r.sends(4, Rig.connack("auto5"));
         Check.yes("the others stay", r.broker.isOpen(0) && r.broker.isOpen(2));
+        // It does not go back to ids that are free again.
+        r.broker.lose(3);
+        r.broker.lose(4);
+        r.broker.open(3);
+        r.feed(3, Rig.connect("", 0, 0, NONE));
+        r.sends(3, Rig.connack("auto6"));
+        r.told(7, 3);
         // Eleven that are there already are passed over as well.
         Rig q = new Rig();
         for (int i = 1; i <= 11; i++) {

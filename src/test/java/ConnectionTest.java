@@ -232,19 +232,12 @@ public final class ConnectionTest {
         Check.same("byte", -1, r.broker.out(0, 0));
     }
 
-    /** Fills OUT of a connection with PINGRESP up to some bytes. */
-    private static void fill(Rig r, int connection, int bytes) {
-        while (r.broker.size(connection) + 2 <= bytes) {
-            r.feed(connection, PING);
-        }
-    }
-
     private static void outIsFull() {
         Rig r = new Rig();
         r.enter(0, "x", 9);
         r.enter(1, "y", 9);
         r.listen(0, "#", 0);
-        fill(r, 0, 1990);
+        r.fill(0, 1990);
         Check.same("size", 1990, r.broker.size(0));
         // The first does not fit, and so the second, which would, is not sent either.
         int before = r.broker.told(3);
@@ -260,7 +253,7 @@ public final class ConnectionTest {
     private static void outIsJustFull() {
         Rig r = new Rig();
         r.enter(0, "x", 9);
-        fill(r, 0, 2000);
+        r.fill(0, 2000);
         Check.same("size", 2000, r.broker.size(0));
         Check.yes("open", r.broker.isOpen(0));
         r.broker.take(0, 1);
@@ -278,7 +271,7 @@ public final class ConnectionTest {
         r.enter(0, "seer", 9);
         r.listen(0, "w/+", 0);
         for (int c = 1; c <= 3; c++) {
-            fill(r, c, 2000);
+            r.fill(c, 2000);
         }
         r.feed(0, Rig.publish(0, "t", 0, ""));
         r.sends(0, Rig.publish(0, "w/1", 0, ""), Rig.publish(0, "w/2", 0, ""),
@@ -297,9 +290,9 @@ public final class ConnectionTest {
         r.enter(6, "c6", 9);
         r.listen(6, "w/2", 0);
         r.enter(0, "pub", 9);
-        fill(r, 5, 2000);
-        fill(r, 2, 2000);
-        fill(r, 6, 2000);
+        r.fill(5, 2000);
+        r.fill(2, 2000);
+        r.fill(6, 2000);
         r.feed(0, Rig.publish(0, "t", 0, ""));
         for (int c : new int[] {5, 2, 6}) {
             Check.yes("closed", !r.broker.isOpen(c));
@@ -313,7 +306,7 @@ public final class ConnectionTest {
         r.enter(0, Rig.connect("c0", 4, 0, Rig.expiry(9), 0, "w", ""));
         r.enter(1, "c1", 9);
         r.listen(1, "w", 1);
-        fill(r, 1, 2000);
+        r.fill(1, 2000);
         r.broker.lose(0);
         Check.yes("closed", !r.broker.isOpen(1));
         Check.same("size", 2000, r.broker.size(1));

@@ -519,15 +519,16 @@ public final class DistributeEdgesTest {
         back(r);
         r.sends(1, Rig.connack(true), Rig.publish(10, "t", 1, "a"));
         // So is what WAITED, when OUT is full before all of it is sent.
-        r.broker.lose(1);
-        for (int i = 0; i < 8; i++) {
-            r.feed(0, Rig.publish(2, "t", 1, Rig.repeat("p", 360)));
+        Rig q = pair(1);
+        q.broker.lose(1);
+        for (int i = 0; i < 7; i++) {
+            q.feed(0, Rig.publish(2, "t", 1, Rig.repeat("p", 360)));
         }
-        r.feed(2, Rig.answer(64, 1));
-        back(r);
-        Check.yes("closed", !r.broker.isOpen(1));
-        r.session(1, 2, 9);
-        r.session(1, 3, 0);
+        back(q);
+        Check.yes("closed", !q.broker.isOpen(1));
+        Check.same("size", 16 + 5 * 369, q.broker.size(1));
+        q.session(1, 2, 7);
+        q.session(1, 3, 0);
     }
 
     private static void whatIsSent() {
@@ -562,7 +563,11 @@ public final class DistributeEdgesTest {
         int[] due = Rig.publish(0, Rig.repeat("t", 64), 0, Rig.properties(11, 255, 255, 255, 127),
                 Rig.repeat("p", payload));
         Check.same("bytes", 469, due.length);
-        r.sends(2, due);
+        Check.same("size", 469, r.broker.size(2));
+        for (int i = 0; i < due.length; i += i < 80 ? 1 : 9) {
+            Check.same("byte", due[i], r.broker.out(2, i));
+        }
+        Check.same("the last", 'p', r.broker.out(2, 468));
     }
 
     private static void numberNoneInAnAnswer() {

@@ -481,9 +481,7 @@ public final class DistributeTest {
         r.enter(0, "pub", 99);
         r.enter(1, "sub", 99);
         r.listen(1, "t", 1);
-        while (r.broker.size(1) < 1998) {
-            r.feed(1, 192, 0);
-        }
+        r.fill(1, 1998);
         r.feed(0, Rig.publish(2, "t", 1, "a"));
         r.sends(0, Rig.answer(64, 1));
         Check.yes("closed", !r.broker.isOpen(1));

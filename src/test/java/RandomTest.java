@@ -9,7 +9,9 @@ public final class RandomTest {
     private static final String[] FILTERS = {"a", "a/+", "#", "+/b/#", "$share/n/a", "$share/m/#", "b",
         "$x/#", "a#", "", "$share/n/", "a/b", "+", "t\u00c3\u00a4"};
     private static final String[] IDS = {"", "x", "y", "auto2", "zz", "id5", "id6", "id7"};
-    private static final int RUNS = 600;
+    private static final int RUNS = 2400;
+    /** So few that the broker is never used for more than its 512 calls. */
+    private static final int STEPS = 14;
     private final Random random;
     private final Rig rig = new Rig();
     private final TopicBroker b = rig.broker;
@@ -21,7 +23,7 @@ public final class RandomTest {
     public static void main(String[] args) {
         for (int run = 0; run < RUNS; run++) {
             RandomTest test = new RandomTest(run);
-            for (int i = 0; i < 60; i++) {
+            for (int i = 0; i < STEPS; i++) {
                 test.step();
             }
             test.bounds();
@@ -33,7 +35,7 @@ public final class RandomTest {
 
     private static String again(long seed) {
         RandomTest test = new RandomTest(seed);
-        for (int i = 0; i < 60; i++) {
+        for (int i = 0; i < STEPS; i++) {
             test.step();
         }
         return test.looks();
@@ -196,9 +198,8 @@ public final class RandomTest {
         }
         for (int c = 0; c < 8; c++) {
             text.append(b.isOpen(c)).append(b.pending(c)).append(' ');
-            for (int i = 0; i < b.size(c); i++) {
-                text.append(b.out(c, i)).append(',');
-            }
+            int size = b.size(c);
+            text.append(size).append(',').append(b.out(c, 0)).append(',').append(b.out(c, size - 1));
         }
         for (int s = 0; s < 12; s++) {
             for (int what = 0; what < 9 && b.isSession(s); what++) {

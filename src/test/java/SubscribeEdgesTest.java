@@ -448,6 +448,11 @@ public final class SubscribeEdgesTest {
                 r.told(0, 0);
             }
         }
+        // The packet is read to its end before.
+        Rig r = new Rig();
+        r.enter(0, "x", 0);
+        r.feed(0, Rig.packet(224, 0, Rig.properties(17, Rig.four(1)), 0));
+        r.closedWith(0, Rig.farewell(129));
     }
 
     private static void disconnectAndTheWill() {

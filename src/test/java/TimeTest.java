@@ -304,9 +304,7 @@ public final class TimeTest {
         r.enter(0, Rig.connect("x", 4, 0, Rig.expiry(9), Rig.properties(24, Rig.four(2)), "w", "p"));
         r.enter(1, "y", 0);
         r.listen(1, "w", 0);
-        while (r.broker.size(1) < 2000) {
-            r.feed(1, 192, 0);
-        }
+        r.fill(1, 2000);
         r.broker.lose(0);
         Check.same("ended", 0, r.broker.pass(1));
         Check.same("ended", 1, r.broker.pass(1));
