@@ -176,6 +176,8 @@ public final class ConnectEdgesTest {
         refused(144, Rig.connect("x", 4, 0, Rig.properties(21, "m"), 0, "+", ""));
         refused(129, Rig.connect("x", 128, 0, Rig.properties(21, "m"), "\u0000"));
         refused(129, Rig.connect("x", 2, 0, Rig.properties(21, "m"), 0));
+        refused(129, Rig.connect("x", 2, 0, Rig.properties(21, "\u00ff")));
+        refused(140, Rig.connect("x", 2, 0, Rig.properties(21, "", 22, "\u00ff")));
         refused(140, Rig.connect(Rig.repeat("i", 21), 2, 0, Rig.properties(21, "m")));
     }
 

@@ -252,6 +252,13 @@ public final class DistributeEdgesTest {
             r = pair(8);
             r.feed(0, Rig.publish(retain, "t", 0, "p"));
             r.sends(1, Rig.publish(retain, "t", 0, "p"));
+            // No other one of the OPTIONS makes it so.
+            r = pair(37);
+            r.feed(0, Rig.publish(retain, "t", 0, "p"));
+            r.sends(1, Rig.publish(0, "t", 0, "p"));
+            r = pair(18);
+            r.feed(0, Rig.publish(retain, "t", 0, "p"));
+            r.sends(1, Rig.publish(0, "t", 0, "p"));
         }
     }
 
@@ -706,6 +713,20 @@ public final class DistributeEdgesTest {
             r.session(1, 4, 0);
             r.feed(1, Rig.answer(98, number));
             r.sends(1, Rig.answer(112, number, 146));
+        }
+        // The others stay HELD, whichever of them goes.
+        for (int first = 1; first <= 3; first++) {
+            Rig q = pair(0);
+            for (int number = 1; number <= 3; number++) {
+                q.feed(1, Rig.publish(4, "u", number, ""));
+            }
+            q.feed(1, Rig.answer(98, first));
+            q.broker.take(1, 99);
+            q.session(1, 4, 2);
+            for (int number = 1; number <= 3; number++) {
+                q.feed(1, Rig.answer(98, number));
+                q.sends(1, number == first ? Rig.answer(112, number, 146) : Rig.answer(112, number));
+            }
         }
     }
 }

@@ -113,6 +113,11 @@ public final class PublishEdgesTest {
         }
         fault(0, Rig.publish(0, "t", 0, Rig.properties(8, Rig.repeat("r", 64)), ""));
         fault(0, Rig.publish(0, "t", 0, Rig.properties(8, "r"), ""));
+        // That of another packet is not meant.
+        Rig r = withSeer(0);
+        r.feed(1, Rig.publish(0, "t", 0, Rig.properties(8, "+"), ""));
+        r.feed(0, Rig.publish(0, "t", 0, ""));
+        Check.yes("open", r.broker.isOpen(0) && !r.broker.isOpen(1));
     }
 
     private static void aliasesOutOfRange() {
@@ -184,6 +189,13 @@ public final class PublishEdgesTest {
         r.feed(0, Rig.publish(0, "t", 0, alias(2), ""));
         r.feed(0, Rig.publish(0, "", 0, ""));
         r.closedWith(0, Rig.farewell(130));
+        // Without an ALIAS a topic is what none stands for.
+        for (int alias = 0; alias <= 4; alias++) {
+            r = one();
+            r.feed(0, Rig.publish(0, "t", 0, ""));
+            r.feed(0, Rig.publish(0, "", 0, alias == 0 ? Rig.properties() : alias(alias), ""));
+            r.closedWith(0, Rig.farewell(130));
+        }
     }
 
     private static void heldAlready() {

@@ -428,6 +428,12 @@ public final class SubscribeEdgesTest {
         Rig r = one();
         r.feed(0, Rig.packet(224, 0, 0));
         Check.same("EXPIRY", 99, r.broker.expiry(0));
+        // What another packet told before is not meant.
+        r = new Rig();
+        r.enter(0, "x", 0);
+        r.enter(1, "y", 9);
+        r.feed(0, 224, 0);
+        r.closedWith(0);
         // With 0 it ENDS at once.
         r = one();
         r.feed(0, Rig.packet(224, 0, Rig.properties(17, Rig.four(0))));

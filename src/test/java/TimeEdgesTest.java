@@ -490,16 +490,26 @@ public final class TimeEdgesTest {
     private static void quietInTheMiddleOfMany() {
         Check.about("So many seconds pass, one by one");
         for (int c = 0; c < 7; c++) {
-            // Quiet in second 4, and so its will comes in 6, and its session ENDS in 9, not in 29.
+            // Quiet in second 4: its will comes in 6, and its session ENDS in 9.
             Rig r = withSeer();
-            r.enter(c, Rig.connect("x", 4, 2, Rig.expiry(5), Rig.properties(24, Rig.four(2), 2, Rig.four(30)),
-                    "w", "p"));
-            r.listen(7, "w", 1);
+            int[] properties = Rig.properties(24, Rig.four(2), 2, Rig.four(30));
+            r.enter(c, Rig.connect("x", 36, 2, Rig.expiry(5), properties, "w", "p"));
             Check.same("ended", 1, r.broker.pass(24));
             Check.yes("closed", !r.broker.isOpen(c));
-            r.sends(7, Rig.publish(0, "w", 0, Rig.properties(2, Rig.four(30)), "p"),
-                    Rig.publish(0, "w", 0, Rig.properties(2, Rig.four(30)), "p"));
+            r.sends(7, Rig.publish(1, "w", 0, Rig.properties(2, Rig.four(30)), "p"));
+            Check.same("LIFE", 12, r.broker.retained(0, 3));
             r.told(6, 24);
+        }
+        // In one second after another something may come.
+        Rig r = new Rig();
+        for (int c = 0; c < 4; c++) {
+            int[] properties = Rig.properties(24, Rig.four(9), 2, Rig.four(50));
+            r.enter(c, Rig.connect("c" + c, 36, 0, Rig.expiry(c + 1), properties, "w/" + c, "p"));
+            r.broker.lose(c);
+        }
+        Check.same("ended", 4, r.broker.pass(10));
+        for (int i = 0; i < 4; i++) {
+            Check.same("LIFE", 41 + i, r.broker.retained(i, 3));
         }
     }
 
