@@ -160,7 +160,7 @@ public final class CallEdgesTest {
     }
 
     private static void feedLowestFirst() {
-        Check.about("Promise 3: Bytes come from a client: those of a, the lowest first, then those of b, n in all");
+        Check.about("Promise 3: Bytes come from a client: those of a, the lowest first, then those of b, n (1 .. 16) in all");
         TopicBroker b = new TopicBroker();
         b.open(0);
         // 16 14 0 4 M Q T T, then 5 2 1 3 0 0 1 255 would be the end of a CONNECT; 255 is no UTF-8.
